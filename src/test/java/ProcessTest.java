@@ -157,6 +157,7 @@ public final class ProcessTest {
         told("xn---tda", 0, true, "xn--tda", 0, 0);
         told("xn-", 0, false, "xn-", 0, 0);
         told("xn-\u00ad-tda", 0, false, "\u00fc", 0, 0);
+        told("yn--tda.xm--tda.xnx-tda.xn-xtda", 0, false, "yn--tda.xm--tda.xnx-tda.xn-xtda", 0, 0, 0, 0, 0);
         told("axn--tda", HYPHENS, false, "axn--tda", 0, 0);
         // Rule 6: what came begins with the tag itself.
         told("xn--" + packed("xn--\u00fc"), 0, false, "xn--\u00fc", rules(6), rules(6));
@@ -258,6 +259,27 @@ public final class ProcessTest {
             "a!", "a\u200c", "a-\u0300", "\u0300" + r};
         for (String label : right) {
             direction(label, 0);
+        }
+        for (int code : new int[] {97, 122, 128, 1487, 1515, 1574, 1577, 1631, 1642, 1775, 1786, 40959}) {
+            direction("a" + code(code), 0);
+            direction(r + code(code) + r, rules(10));
+        }
+        for (int code : new int[] {0, 44, 47, 58, 64, 91, 96, 123, 127}) {
+            direction("a" + code(code), rules(10));
+            direction(r + code(code), rules(10));
+            direction("a" + code(code) + "a", 0);
+            direction(r + code(code) + r, 0);
+        }
+        for (int code : new int[] {48, 57, 1776, 1785}) {
+            direction("a" + code(code), 0);
+            direction(r + code(code), 0);
+            direction(r + an + code(code), rules(10));
+        }
+        for (int code : new int[] {1488, 1514, 1575, 1576, 1632, 1641}) {
+            direction("a" + code(code) + "a", rules(10));
+            direction(r + code(code), 0);
+            told("1." + code(code), BIDI, false, "1." + code(code), rules(10), rules(10),
+                code == 1632 || code == 1641 ? rules(10) : 0);
         }
         for (String label : wrong) {
             direction(label, rules(10));

@@ -58,9 +58,10 @@ public final class TypingTest {
         Due.due("type(high bytes left, 3)", names.type(0x6162636465666768L, 3), true);
         Due.due("type(-1, 8)", names.type(-1L, 8), true);
         Due.due("type(0, 2)", names.type(0L, 2), true);
+        Due.due("type(.., 1)", names.type(0x6162L, 1), true);
         Due.due("type(MIN, 8)", names.type(Long.MIN_VALUE, 8), true);
         names.compose();
-        String wanted = "abcdefgh" + "fgh" + Due.repeated("\u00ff", 8) + Due.repeated("\u0000", 2) + "\u0080"
+        String wanted = "abcdefgh" + "fgh" + Due.repeated("\u00ff", 8) + Due.repeated("\u0000", 2) + "b\u0080"
             + Due.repeated("\u0000", 7);
         Due.due("what was typed", Due.result(names), wanted);
     }
