@@ -131,26 +131,12 @@ public final class PackTest {
 
     /** The first number has t = 1, 1, 26, 26, ..: the greatest code that is taken, and the next one. */
     private static void greatestNumbers() {
-        Due.due("n = 1114111", Due.typed(numberDigits(1114111 - 128)).unpack(), true);
-        Due.due("n = 1114112", Due.typed(numberDigits(1114112 - 128)).unpack(), false);
+        Due.due("n = 1114111", Due.typed(Due.digits(1114111 - 128)).unpack(), true);
+        Due.due("n = 1114112", Due.typed(Due.digits(1114112 - 128)).unpack(), false);
         // Behind 47 codes the place is taken modulo 48, so far greater numbers are due to be read.
         String codes = Due.repeated("a", 37) + "-";
-        Due.due("a great number", Due.typed(codes + numberDigits(38L * (1114112 - 128) - 1)).unpack(), true);
-        Due.due("too great a number", Due.typed(codes + numberDigits(38L * (1114112 - 128))).unpack(), false);
-        Due.due("more than an int", Due.typed(codes + numberDigits(2147483648L)).unpack(), false);
-    }
-
-    private static String numberDigits(long number) {
-        StringBuilder digits = new StringBuilder();
-        long q = number;
-        for (int k = 36; k < 1000; k += 36) {
-            long t = Math.max(1, Math.min(26, k - 72));
-            if (q < t) {
-                break;
-            }
-            digits.append("abcdefghijklmnopqrstuvwxyz0123456789".charAt((int) (t + (q - t) % (36 - t))));
-            q = (q - t) / (36 - t);
-        }
-        return digits.append("abcdefghijklmnopqrstuvwxyz0123456789".charAt((int) q)).toString();
+        Due.due("a great number", Due.typed(codes + Due.digits(38L * (1114112 - 128) - 1)).unpack(), true);
+        Due.due("too great a number", Due.typed(codes + Due.digits(38L * (1114112 - 128))).unpack(), false);
+        Due.due("more than an int", Due.typed(codes + Due.digits(2147483648L)).unpack(), false);
     }
 }

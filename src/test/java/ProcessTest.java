@@ -1,13 +1,5 @@
 /** Promises 5 to 9: process, length, at, labels, broken. */
-public final class ProcessTest {
-    private static final int STRICT = HostNames.STRICT;
-    private static final int OLD = HostNames.OLD;
-    private static final int HYPHENS = HostNames.HYPHENS;
-    private static final int JOINERS = HostNames.JOINERS;
-    private static final int BIDI = HostNames.BIDI;
-    private static final int LENGTH = HostNames.LENGTH;
-    private static final int ALL = 63;
-
+public final class ProcessTest extends Due {
     public static void main(String[] args) {
         wrongOptions();
         mapping();
@@ -28,51 +20,24 @@ public final class ProcessTest {
         wholeLength();
         readingTheResult();
         latestProcessOnly();
-        Due.end();
-    }
-
-    /** Looks at the result, the answer and what each label broke. */
-    private static void told(String text, int options, boolean ascii, String wanted, int rules, int... labelRules) {
-        HostNames names = Due.typed(text);
-        String call = "process(" + options + ", " + ascii + ") of " + wanted;
-        Due.due(call, names.process(options, ascii), rules);
-        Due.due(call + ": result", Due.result(names), wanted);
-        Due.due(call + ": labels()", names.labels(), labelRules.length);
-        for (int k = 0; k < labelRules.length; k++) {
-            Due.due(call + ": broken(" + k + ")", names.broken(k), labelRules[k]);
-        }
-        Due.due(call + ": broken(-1)", names.broken(-1), HostNames.BAD);
-        Due.due(call + ": broken(behind)", names.broken(labelRules.length), HostNames.BAD);
-        Due.due(call + ": text", names.clear(), text.codePointCount(0, text.length()));
-    }
-
-    private static int rules(int... broken) {
-        int sum = 0;
-        for (int rule : broken) {
-            sum += 1 << (rule - 1);
-        }
-        return sum;
-    }
-
-    private static String code(int code) {
-        return new StringBuilder().appendCodePoint(code).toString();
+        end();
     }
 
     private static void wrongOptions() {
-        HostNames names = Due.typed("-a.b");
+        HostNames names = typed("-a.b");
         names.process(HYPHENS, false);
-        Due.retype(names, "c");
+        retype(names, "c");
         int[] wrong = {-1, 64, 128, Integer.MIN_VALUE, Integer.MAX_VALUE, -64};
         for (int options : wrong) {
-            Due.due("process(" + options + ", false)", names.process(options, false), HostNames.BAD);
-            Due.due("process(" + options + ", true)", names.process(options, true), HostNames.BAD);
+            due("process(" + options + ", false)", names.process(options, false), BAD);
+            due("process(" + options + ", true)", names.process(options, true), BAD);
         }
-        Due.due("result stays", Due.result(names), "-a.b");
-        Due.due("labels() stays", names.labels(), 2);
-        Due.due("broken(0) stays", names.broken(0), rules(5));
-        Due.due("text stays", names.clear(), 1);
+        due("result stays", result(names), "-a.b");
+        due("labels() stays", names.labels(), 2);
+        due("broken(0) stays", names.broken(0), rules(5));
+        due("text stays", names.clear(), 1);
         for (int options = 0; options <= ALL; options++) {
-            Due.due("process(" + options + ")", Due.typed("a").process(options, true), 0);
+            due("process(" + options + ")", typed("a").process(options, true), 0);
         }
     }
 
@@ -95,8 +60,8 @@ public final class ProcessTest {
         told("\u00df\u03c2\u200c\u200d", OLD, false, "ss\u03c3", 0, 0);
         told("a\u200d\u0300", OLD, false, "\u00e0", 0, 0);
         told("a\u200d\u0300", 0, false, "a\u200d\u0300", 0, 0);
-        told(Due.repeated("\u00df", 48), OLD | LENGTH, true, Due.repeated("s", 96), rules(11), rules(11));
-        told(Due.repeated("\u00df", 48), OLD | LENGTH, false, Due.repeated("s", 96), 0, 0);
+        told(repeated("\u00df", 48), OLD | LENGTH, true, repeated("s", 96), rules(11), rules(11));
+        told(repeated("\u00df", 48), OLD | LENGTH, false, repeated("s", 96), 0, 0);
         // What is unpacked is checked as if OLD were off.
         told("xn--zca", OLD, false, "\u00df", 0, 0);
         told("xn--3xa", OLD, false, "\u03c2", 0, 0);
@@ -108,25 +73,25 @@ public final class ProcessTest {
             1574, 1577, 1613, 1615, 1631, 1642, 1775, 1786, 2324, 2362, 2380, 2382, 8203, 8206, 12289, 12291, 19967,
             40960, 55295, 57344, 65280, 65375, 65536, 1114111};
         for (int code : forbidden) {
-            told("a." + code(code), 0, false, "a." + code(code), rules(1, 8), 0, rules(8));
+            told("a." + codes(code), 0, false, "a." + codes(code), rules(1, 8), 0, rules(8));
         }
         int[] good = {
             45, 48, 57, 97, 122, 224, 246, 248, 255, 945, 961, 963, 969, 1488, 1514, 1575, 1576, 1632, 1641, 1776,
             1785, 2325, 2361, 19968, 40959, 223, 962, 8204, 8205};
         for (int code : good) {
-            told(code(code), STRICT, false, code(code), 0, 0);
+            told(codes(code), STRICT, false, codes(code), 0, 0);
         }
         int[] marks = {768, 769, 776, 807, 1614, 2381};
         for (int code : marks) {
-            told(code(code), STRICT, false, code(code), rules(7), rules(7));
+            told(codes(code), STRICT, false, codes(code), rules(7), rules(7));
         }
     }
 
     private static void plainCodes() {
         int[] plain = {0, 32, 44, 47, 58, 64, 91, 96, 123, 127};
         for (int code : plain) {
-            told(code(code), 0, false, code(code), 0, 0);
-            told(code(code), STRICT, false, code(code), rules(1, 8), rules(8));
+            told(codes(code), 0, false, codes(code), 0, 0);
+            told(codes(code), STRICT, false, codes(code), rules(1, 8), rules(8));
         }
         told("\uff01\uff5e", 0, false, "!~", 0, 0);
         told("a.\uff01", STRICT, false, "a.!", rules(1, 8), 0, rules(8));
@@ -136,17 +101,11 @@ public final class ProcessTest {
         told("xn--!-sfa", 0, false, "!\u00e0", 0, 0);
     }
 
-    private static String packed(String text) {
-        HostNames names = Due.typed(text);
-        names.pack();
-        return Due.result(names);
-    }
-
     private static void cutting() {
         told("", ALL, false, "", 0, 0);
         told(".", 0, false, ".", 0, 0, 0);
         told("a..b.", ALL, false, "a..b.", 0, 0, 0, 0, 0);
-        told(Due.repeated(".", 48), 0, true, Due.repeated(".", 48), 0, new int[49]);
+        told(repeated(".", 48), 0, true, repeated(".", 48), 0, new int[49]);
         told("a.\u0300b", 0, false, "a.\u0300b", rules(7), 0, rules(7));
     }
 
@@ -164,7 +123,7 @@ public final class ProcessTest {
         told("xn--" + packed("xn--\u00fc"), HYPHENS, false, "xn--\u00fc", rules(4, 6), rules(4, 6));
         // A dot of another script inside what came cuts no labels.
         told("xn--" + packed("a\u3002b"), 0, false, "a\u3002b", rules(8), rules(8));
-        told("xn--ib9b", 0, false, code(55296), rules(8), rules(8));
+        told("xn--ib9b", 0, false, codes(55296), rules(8), rules(8));
     }
 
     private static void taggedLabelsThatFail() {
@@ -179,11 +138,11 @@ public final class ProcessTest {
         told("xn--a-", LENGTH, true, "xn--a-", rules(2), rules(2));
         told("xn--aaaaaaaaaaaaaaaa-", LENGTH, true, "xn--aaaaaaaaaaaaaaaa-", rules(2, 11), rules(2, 11));
         // More than 48 codes can only come of OLD style.
-        String s47 = Due.repeated("s", 47);
-        told("xn--" + Due.repeated("\u00df", 23) + "s-91d", OLD, false, s47 + "\u00e0", 0, 0);
-        told("xn--" + Due.repeated("\u00df", 24) + "-14d", OLD, false, "xn--" + s47 + "s-14d", rules(2), rules(2));
-        told("xn--" + Due.repeated("\u00df", 25) + "-", OLD, false, "xn--" + s47 + "sss-", rules(2), rules(2));
-        told("xn--" + Due.repeated("\u00df", 44), OLD, false, "xn--" + s47 + Due.repeated("s", 41), rules(2), rules(2));
+        String s47 = repeated("s", 47);
+        told("xn--" + repeated("\u00df", 23) + "s-91d", OLD, false, s47 + "\u00e0", 0, 0);
+        told("xn--" + repeated("\u00df", 24) + "-14d", OLD, false, "xn--" + s47 + "s-14d", rules(2), rules(2));
+        told("xn--" + repeated("\u00df", 25) + "-", OLD, false, "xn--" + s47 + "sss-", rules(2), rules(2));
+        told("xn--" + repeated("\u00df", 44), OLD, false, "xn--" + s47 + repeated("s", 41), rules(2), rules(2));
     }
 
     private static void hyphens() {
@@ -237,11 +196,11 @@ public final class ProcessTest {
     }
 
     private static void joiner(String label, boolean isRight) {
-        HostNames names = Due.typed(label);
+        HostNames names = typed(label);
         int ninth = rules(9);
-        Due.due("rule 9 in " + packed(label), names.process(JOINERS, false) & ninth, isRight ? 0 : ninth);
-        Due.due("rule 9 of the label " + packed(label), names.broken(0) & ninth, isRight ? 0 : ninth);
-        Due.due("rule 9 not looked at", names.process(ALL & ~JOINERS & ~LENGTH, false) & ninth, 0);
+        due("rule 9 in " + packed(label), names.process(JOINERS, false) & ninth, isRight ? 0 : ninth);
+        due("rule 9 of the label " + packed(label), names.broken(0) & ninth, isRight ? 0 : ninth);
+        due("rule 9 not looked at", names.process(ALL & ~JOINERS & ~LENGTH, false) & ninth, 0);
     }
 
     private static void directions() {
@@ -261,24 +220,24 @@ public final class ProcessTest {
             direction(label, 0);
         }
         for (int code : new int[] {97, 122, 128, 1487, 1515, 1574, 1577, 1631, 1642, 1775, 1786, 40959}) {
-            direction("a" + code(code), 0);
-            direction(r + code(code) + r, rules(10));
+            direction("a" + codes(code), 0);
+            direction(r + codes(code) + r, rules(10));
         }
         for (int code : new int[] {0, 44, 47, 58, 64, 91, 96, 123, 127}) {
-            direction("a" + code(code), rules(10));
-            direction(r + code(code), rules(10));
-            direction("a" + code(code) + "a", 0);
-            direction(r + code(code) + r, 0);
+            direction("a" + codes(code), rules(10));
+            direction(r + codes(code), rules(10));
+            direction("a" + codes(code) + "a", 0);
+            direction(r + codes(code) + r, 0);
         }
         for (int code : new int[] {48, 57, 1776, 1785}) {
-            direction("a" + code(code), 0);
-            direction(r + code(code), 0);
-            direction(r + an + code(code), rules(10));
+            direction("a" + codes(code), 0);
+            direction(r + codes(code), 0);
+            direction(r + an + codes(code), rules(10));
         }
         for (int code : new int[] {1488, 1514, 1575, 1576, 1632, 1641}) {
-            direction("a" + code(code) + "a", rules(10));
-            direction(r + code(code), 0);
-            told("1." + code(code), BIDI, false, "1." + code(code), rules(10), rules(10),
+            direction("a" + codes(code) + "a", rules(10));
+            direction(r + codes(code), 0);
+            told("1." + codes(code), BIDI, false, "1." + codes(code), rules(10), rules(10),
                 code == 1632 || code == 1641 ? rules(10) : 0);
         }
         for (String label : wrong) {
@@ -287,11 +246,11 @@ public final class ProcessTest {
     }
 
     private static void direction(String label, int wanted) {
-        HostNames names = Due.typed("\u05d0." + label);
-        Due.due("rule 10 in " + packed(label), names.process(BIDI, false) & rules(10), wanted);
-        Due.due("rule 10 of " + packed(label), names.broken(1) & rules(10), wanted);
-        Due.due("rule 10 of the first", names.broken(0), 0);
-        Due.due("rule 10 not looked at", names.process(ALL & ~BIDI & ~LENGTH, false) & rules(10), 0);
+        HostNames names = typed("\u05d0." + label);
+        due("rule 10 in " + packed(label), names.process(BIDI, false) & rules(10), wanted);
+        due("rule 10 of " + packed(label), names.broken(1) & rules(10), wanted);
+        due("rule 10 of the first", names.broken(0), 0);
+        due("rule 10 not looked at", names.process(ALL & ~BIDI & ~LENGTH, false) & rules(10), 0);
     }
 
     private static void directionsOfAllLabels() {
@@ -315,7 +274,7 @@ public final class ProcessTest {
 
     private static void lengths() {
         int tooLong = rules(11);
-        String twenty = Due.repeated("a", 20);
+        String twenty = repeated("a", 20);
         told(twenty, LENGTH, true, twenty, 0, 0);
         told(twenty + ".", LENGTH, true, twenty + ".", 0, 0, 0);
         told(twenty + "a", LENGTH, true, twenty + "a", tooLong, tooLong);
@@ -330,17 +289,17 @@ public final class ProcessTest {
         told("a..", LENGTH, true, "a..", tooLong, 0, tooLong, 0);
         told("a..b", LENGTH, true, "a..b", tooLong, 0, tooLong, 0);
         // It is the packed label that is measured: 4, 13, a hyphen and two digits.
-        String packed20 = "xn--" + packed(Due.repeated("a", 12) + "\u00fc");
-        Due.due("length of a packed label", packed20.length(), 20);
-        told(Due.repeated("a", 12) + "\u00fc", LENGTH, true, packed20, 0, 0);
-        String packed21 = "xn--" + packed(Due.repeated("a", 13) + "\u00fc");
-        told(Due.repeated("a", 13) + "\u00fc", LENGTH, true, packed21, tooLong, tooLong);
+        String packed20 = "xn--" + packed(repeated("a", 12) + "\u00fc");
+        due("length of a packed label", packed20.length(), 20);
+        told(repeated("a", 12) + "\u00fc", LENGTH, true, packed20, 0, 0);
+        String packed21 = "xn--" + packed(repeated("a", 13) + "\u00fc");
+        told(repeated("a", 13) + "\u00fc", LENGTH, true, packed21, tooLong, tooLong);
     }
 
     private static void wholeLength() {
         // 16 codes a packed label: 3 of them with dots are 50, and a last one of 9 or 10 makes 60 or 61.
-        String label = Due.repeated("a", 8) + "\u00fc";
-        Due.due("length of a packed label", packed(label).length() + 4, 16);
+        String label = repeated("a", 8) + "\u00fc";
+        due("length of a packed label", packed(label).length() + 4, 16);
         String three = label + "." + label + "." + label + ".";
         String packedThree = ("xn--" + packed(label) + ".").repeat(3);
         told(three + "aaaaaaaaa", LENGTH, true, packedThree + "aaaaaaaaa", 0, 0, 0, 0, 0);
@@ -351,41 +310,41 @@ public final class ProcessTest {
     }
 
     private static void readingTheResult() {
-        HostNames names = Due.typed("a\u00fc");
+        HostNames names = typed("a\u00fc");
         names.process(0, false);
-        Due.due("length()", names.length(), 2);
-        Due.due("at(0)", names.at(0), 97);
-        Due.due("at(1)", names.at(1), 252);
+        due("length()", names.length(), 2);
+        due("at(0)", names.at(0), 97);
+        due("at(1)", names.at(1), 252);
         int[] none = {2, 3, -1, Integer.MIN_VALUE, Integer.MAX_VALUE};
         for (int i : none) {
-            Due.due("at(" + i + ")", names.at(i), HostNames.BAD);
+            due("at(" + i + ")", names.at(i), BAD);
         }
         int[] noLabel = {1, 48, 49, -1, Integer.MIN_VALUE, Integer.MAX_VALUE};
         for (int k : noLabel) {
-            Due.due("broken(" + k + ")", names.broken(k), HostNames.BAD);
+            due("broken(" + k + ")", names.broken(k), BAD);
         }
         // A longer result that went leaves nothing behind.
-        Due.retype(names, "b");
+        retype(names, "b");
         names.process(0, false);
-        Due.due("at(1) of a shorter result", names.at(1), HostNames.BAD);
+        due("at(1) of a shorter result", names.at(1), BAD);
     }
 
     private static void latestProcessOnly() {
-        HostNames names = Due.typed("-a.\u00fc.b-");
+        HostNames names = typed("-a.\u00fc.b-");
         names.process(HYPHENS, false);
-        Due.due("labels()", names.labels(), 3);
+        due("labels()", names.labels(), 3);
         names.pack();
         names.compose();
-        Due.retype(names, "tda");
+        retype(names, "tda");
         names.unpack();
-        Due.due("result of unpack()", Due.result(names), "\u00fc");
-        Due.due("labels() of the latest process()", names.labels(), 3);
-        Due.due("broken(0) of the latest process()", names.broken(0), rules(5));
-        Due.due("broken(1) of the latest process()", names.broken(1), 0);
-        Due.due("broken(2) of the latest process()", names.broken(2), rules(5));
+        due("result of unpack()", result(names), "\u00fc");
+        due("labels() of the latest process()", names.labels(), 3);
+        due("broken(0) of the latest process()", names.broken(0), rules(5));
+        due("broken(1) of the latest process()", names.broken(1), 0);
+        due("broken(2) of the latest process()", names.broken(2), rules(5));
         names.process(0, false);
-        Due.due("labels() of a new process()", names.labels(), 1);
-        Due.due("broken(0) of a new process()", names.broken(0), 0);
-        Due.due("broken(1) of a new process()", names.broken(1), HostNames.BAD);
+        due("labels() of a new process()", names.labels(), 1);
+        due("broken(0) of a new process()", names.broken(0), 0);
+        due("broken(1) of a new process()", names.broken(1), BAD);
     }
 }
