@@ -173,14 +173,6 @@ class Due {
 
     /** Looks at all that an object shows, and last, since that changes it, at its text. */
     static void holds(String after, HostNames names, String text, String result, int... labelRules) {
-        shows(after, names, result, labelRules);
-        // Two texts are never packed alike, so the packed form shows the text as it was typed.
-        names.pack();
-        due(after + ": text, packed", result(names), packed(text));
-        due(after + ": clear()", names.clear(), count(text));
-    }
-
-    private static void shows(String after, HostNames names, String result, int... labelRules) {
         due(after + ": result", result(names), result);
         due(after + ": at(-1)", names.at(-1), BAD);
         due(after + ": at(length)", names.at(count(result)), BAD);
@@ -190,6 +182,10 @@ class Due {
         }
         due(after + ": broken(-1)", names.broken(-1), BAD);
         due(after + ": broken(labels)", names.broken(labelRules.length), BAD);
+        // Two texts are never packed alike, so the packed form shows the text as it was typed.
+        names.pack();
+        due(after + ": text, packed", result(names), packed(text));
+        due(after + ": clear()", names.clear(), count(text));
     }
 
     // ---- processing
@@ -202,13 +198,12 @@ class Due {
         return sum;
     }
 
-    /** Processes a text and looks at the answer, the result and what each label broke. */
+    /** Processes a text and looks at the answer, the result, what each label broke, and that the text stays. */
     static void told(String text, int options, boolean ascii, String wanted, int rules, int... labelRules) {
         HostNames names = typed(text);
         String call = "process(" + options + ", " + ascii + ") of " + shown(text);
         due(call, names.process(options, ascii), rules);
-        shows(call, names, wanted, labelRules);
-        due(call + ": text", names.clear(), count(text));
+        holds(call, names, text, wanted, labelRules);
     }
 
     /** Looks at one rule alone, in a text of one label, and at the other rules not at all. */

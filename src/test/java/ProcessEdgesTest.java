@@ -324,6 +324,14 @@ public final class ProcessEdgesTest extends Due {
             due("broken(" + k + ")", names.broken(k), wanted[k]);
         }
         due("process(0, true)", names.process(0, true), rules(1, 2, 3, 6, 7, 8));
+        // One label can break most of them.
+        brokenByOneLabel(TAG + "aaaaa" + codes(768, 192, 8205) + "-", 3, 4, 5, 6, 8, 9, 10, 11);
+        brokenByOneLabel(codes(769, 807) + "--aaaaaa" + codes(192, 8205) + "-", 3, 4, 5, 7, 8, 9, 10, 11);
+    }
+
+    private static void brokenByOneLabel(String label, int... broken) {
+        String text = TAG + packed(label) + "." + codes(1488);
+        told(text, ALL, true, TAG + packed(label) + "." + TAG + packed(codes(1488)), rules(broken), rules(broken), 0);
     }
 
     private static void wrongOptionsChangeNothing() {
