@@ -95,7 +95,8 @@ public final class ComposeEdgesTest extends Due {
         }
         form(codes(98) + repeated(codes(769, 807, 1614), 15) + codes(2381, 2381),
             codes(98, 2381, 2381) + repeated(codes(1614), 15) + repeated(codes(807), 15) + repeated(codes(769), 15));
-        form(repeated(codes(776), 24) + repeated(codes(2381), 24), repeated(codes(2381), 24) + repeated(codes(776), 24));
+        form(repeated(codes(776), 24) + repeated(codes(2381), 24),
+            repeated(codes(2381), 24) + repeated(codes(776), 24));
     }
 
     /** The n-th order, from 0, in which the codes can stand. */

@@ -130,7 +130,8 @@ public final class JoinerEdgesTest extends Due {
         told(codes(98, NINE, 46, 8205), JOINERS, false, codes(98, NINE, 46, 8205), rules(9), 0, rules(9));
         told(codes(BOTH, 8204, 46, BOTH), JOINERS, false, codes(BOTH, 8204, 46, BOTH), rules(9), rules(9), 0);
         told(codes(BOTH, 46, 8204, BOTH), JOINERS, false, codes(BOTH, 46, 8204, BOTH), rules(9), 0, rules(9));
-        told(codes(BOTH, 8204, BOTH, 46, 8205), JOINERS, false, codes(BOTH, 8204, BOTH, 46, 8205), rules(9), 0, rules(9));
+        String both = codes(BOTH, 8204, BOTH, 46, 8205);
+        told(both, JOINERS, false, both, rules(9), 0, rules(9));
     }
 
     private static void joiningOfEveryCode() {

@@ -364,7 +364,8 @@ public final class ProcessEdgesTest extends Due {
             wanted |= (options & LENGTH) != 0 ? rules(11) : 0;
             HostNames names = typed(text);
             due("process(" + options + ", true)", names.process(options, true), wanted);
-            due("at(last) of process(" + options + ", true)", names.at(names.length() - 1), (options & OLD) != 0 ? 's' : 'a');
+            int last = (options & OLD) != 0 ? 's' : 'a';
+            due("at(last) of process(" + options + ", true)", names.at(names.length() - 1), last);
         }
     }
 }

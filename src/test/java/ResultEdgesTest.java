@@ -45,8 +45,9 @@ public final class ResultEdgesTest extends Due {
         told(codes(127), 0, true, codes(127), 0, 0);
         told(codes(128), 0, true, TAG + "a", rules(1, 8), rules(8));
         told(codes(127, 128), 0, true, TAG + codes(127) + "-ba", rules(1, 8), rules(8));
-        told("b" + codes(252) + "cher.de." + codes(252), 0, true, TAG + "bcher-kva.de." + TAG + "tda", 0, 0, 0, 0);
-        told("b" + codes(252) + "cher.de." + codes(252), 0, false, "b" + codes(252) + "cher.de." + codes(252), 0, 0, 0, 0);
+        String books = "b" + codes(252) + "cher.de." + codes(252);
+        told(books, 0, true, TAG + "bcher-kva.de." + TAG + "tda", 0, 0, 0, 0);
+        told(books, 0, false, books, 0, 0, 0, 0);
         told(TAG + "tda", 0, true, TAG + "tda", 0, 0);
         told(TAG + "-tda", 0, true, TAG + "tda", 0, 0);
         told("XN--TDA." + codes(220), 0, true, TAG + "tda." + TAG + "tda", 0, 0, 0);

@@ -120,7 +120,7 @@ public final class UnpackEdgesTest extends Due {
     }
 
     private static void placesOfInsertion() {
-        sentence("Unpacking: n grows by i / (that number), i becomes i modulo that number, n is inserted at the place i");
+        sentence("Unpacking: n grows by i / (that number), i becomes i modulo .., n is inserted at the place i");
         unpacks("abc-" + digits(0), codes(128) + "abc");
         unpacks("abc-" + digits(1), "a" + codes(128) + "bc");
         unpacks("abc-" + digits(3), "abc" + codes(128));
