@@ -49,7 +49,7 @@ public final class HostNames {
         found = new Labels();
         composer = new Composer();
         packer = new Packer();
-        checker = new Checker(composer);
+        checker = new Checker();
     }
 
     public boolean put(int code) {
@@ -807,8 +807,8 @@ public final class HostNames {
         private final Composer composer;
         private final Row form;
 
-        Checker(Composer composer) {
-            this.composer = composer;
+        Checker() {
+            composer = new Composer();
             form = new Row(WORK_LIMIT);
         }
 
@@ -892,9 +892,10 @@ public final class HostNames {
             return left == Codes.JOINS_BOTH && joinsRight;
         }
 
+        /** Beyond the label's ends there is no code, and what is none joins with nothing. */
         private static int joiningBeyond(Row label, int place, int step) {
-            for (int i = place + step; i >= 0 && i < label.size(); i += step) {
-                int joining = Codes.joining(label.get(i));
+            for (int far = 1; far <= label.size(); far++) {
+                int joining = Codes.joining(label.get(place + far * step));
                 if (joining != Codes.JOINS_THROUGH) {
                     return joining;
                 }
